@@ -509,6 +509,14 @@ public final class PromisesTest {
             commit(0) = 3
             told(0, 6) = 1
             told(1, 6) = 0""");
+        run("11: a snapshot one is no after", """
+            begin(1) = 0
+            begin(0) = 1
+            read(0, 1) = 0
+            write(1, 1, 1) = 1
+            commit(1) = 1
+            commit(0) = 2
+            told(0, 6) = 0""");
         run("11: a snapshot one is never unsafe", """
             begin(0) = 0
             begin(1) = 1
@@ -607,6 +615,16 @@ public final class PromisesTest {
             versions(1) = 0
             count(3) = 1
             at(2, false) = 2""");
+        run("13: a version that is covered just at an open transaction's start goes", """
+            begin(0) = 0
+            write(0, 1, 1) = 1
+            commit(0) = 1
+            begin(0) = 1
+            write(1, 1, 2) = 1
+            commit(1) = 2
+            begin(0) = 2
+            vacuum() = 1
+            read(2, 1) = 2""");
         run("13: an erased one that an open transaction began below stays", """
             begin(0) = 0
             begin(0) = 1
