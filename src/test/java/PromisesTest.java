@@ -1,22 +1,9 @@
 /** For each promise of the document, runs of calls on new objects, each row with the answer that is due. */
 public final class PromisesTest {
-    private static int wrong = 0;
+    private static final Rows ROWS = new Rows();
 
-    /** A row is 'call = answer'; an answer 'throws.E' wants the exception E; '3 * call' makes a call three times. */
     private static void run(String title, String rows) {
-        SnapshotStore x = new SnapshotStore();
-        for (String row : rows.lines().toList()) {
-            String[] sides = row.trim().split(" = ");
-            String[] times = sides[0].split(" \\* ");
-            int repeat = times.length == 1 ? 1 : Integer.parseInt(times[0]);
-            for (int i = 0; i < repeat; i++) {
-                String got = Calls.answer(x, times[times.length - 1]);
-                if (sides.length == 2 && !got.equals(sides[1])) {
-                    wrong++;
-                    System.out.println(title + ": " + row.trim() + " is due, it answered " + got);
-                }
-            }
-        }
+        ROWS.run(title, rows);
     }
 
     private static void newObject() {
@@ -44,8 +31,7 @@ public final class PromisesTest {
         one.write(one.begin(0), 1, 1);
         one.commit(0);
         if (other.count(0) != 0 || other.count(5) != 0 || other.at(1, false) != 0) {
-            wrong++;
-            System.out.println("1: an object is changed by calls of another");
+            ROWS.complain("1: two objects", "a new one that is empty", "one that another's calls changed");
         }
     }
 
@@ -835,9 +821,6 @@ public final class PromisesTest {
         told();
         atAndVersions();
         countAndAstray();
-        System.out.println(wrong == 0 ? "all promises hold" : wrong + " answers are not as due");
-        if (wrong != 0) {
-            System.exit(1);
-        }
+        ROWS.end();
     }
 }
