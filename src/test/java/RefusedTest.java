@@ -1,10 +1,13 @@
-/** Each call that the document refuses, in each way that it names: the exception, and that nothing has changed by it. */
+/** Each call that the document refuses, in each way that it names: the exception, and that nothing has changed. */
 public final class RefusedTest {
     private static final Rows ROWS = new Rows();
     private static final String OUT = "IndexOutOfBoundsException", STATE = "IllegalStateException",
             ARGUMENT = "IllegalArgumentException";
 
-    /** 0 to 6 are ended, in each way there is; 7 and 8 are open, a snapshot one and a serial one, with two places. */
+    /**
+     * 0 to 6 are ended, in each way there is; 8 and 9 are open, a snapshot one and a serial one, with two places. 7 has
+     * an after, so that its commit tells whether an ended serial one is a before: 4 alone is, of one that writes MAX.
+     */
     private static final String BUSY = """
         begin(0) = 0
         write(0, 1, 10) = 1
@@ -24,7 +27,11 @@ public final class RefusedTest {
         begin(1) = 4
         begin(1) = 5
         begin(1) = 6
+        begin(1) = 7
+        write(7, 0, 40) = 1
+        read(7, 2) = 20
         read(4, 1) = 10
+        found(4, MAX) = 0
         read(5, 2) = 20
         write(4, 2, 21) = 1
         write(5, 1, 12) = 1
@@ -32,27 +39,27 @@ public final class RefusedTest {
         commit(4) = 2
         commit(5) = -2
         commit(6) = -1
-        begin(0) = 7
-        begin(1) = 8
-        save(7) = 0
-        write(7, 1, 13) = 1
-        save(7) = 1
-        erase(7, 3) = 2
+        begin(0) = 8
+        begin(1) = 9
         save(8) = 0
-        write(8, 2, 23) = 1
+        write(8, 1, 13) = 1
         save(8) = 1
-        write(8, 3, 33) = 2
-        read(8, 1) = 10
+        erase(8, 3) = 2
+        save(9) = 0
+        write(9, 2, 23) = 1
+        save(9) = 1
+        write(9, 3, 33) = 2
+        read(9, 1) = 10
         """;
 
     private static final String[][] ENDED = {
         {"0", "committed, and safe"}, {"1", "lost"}, {"2", "aborted by a crash"}, {"3", "aborted"},
         {"4", "committed"}, {"5", "aborted as unsafe"}, {"6", "aborted by a conflict"}};
-    private static final String[] MISSING = {"MIN", "-1", "9", "10", "119", "120", "121", "MAX"};
+    private static final String[] MISSING = {"MIN", "-1", "10", "11", "119", "120", "121", "MAX"};
 
     /** Each call that wants an open transaction, once as it would be right, and once wrong in another way, too. */
     private static final String[] OF_OPEN = {
-        "3 read(%s, 1)", "4 found(%s, 1)", "5 write(%s, 1, 99)", "5 write(%s, MAX, 99)", "6 erase(%s, 1)",
+        "3 read(%s, 0)", "4 found(%s, 0)", "5 write(%s, 1, 99)", "5 write(%s, MAX, 99)", "6 erase(%s, 1)",
         "6 erase(%s, MIN)", "7 sum(%s, MIN, MAX)", "7 sum(%s, 1, 0)", "8 key(%s, MIN, 0)", "8 key(%s, MIN, -1)",
         "9 save(%s)", "10 back(%s, 0)", "10 back(%s, -1)", "10 back(%s, 20)", "11 commit(%s)", "12 abort(%s)"};
 
@@ -94,8 +101,8 @@ public final class RefusedTest {
         for (String i : new String[] {"-1", "-2", "MIN"}) {
             for (String low : new String[] {"MIN", "1", "MAX"}) {
                 String of = ", " + low + ", " + i + ")";
-                refused(8, "i is below 0, of a snapshot one", BUSY, "key(7" + of, ARGUMENT);
-                refused(8, "i is below 0, of a serial one", BUSY, "key(8" + of, ARGUMENT);
+                refused(8, "i is below 0, of a snapshot one", BUSY, "key(8" + of, ARGUMENT);
+                refused(8, "i is below 0, of a serial one", BUSY, "key(9" + of, ARGUMENT);
                 refused(8, "i is below 0, and nothing is there", "begin(1) = 0", "key(0" + of, ARGUMENT);
             }
         }
@@ -112,24 +119,26 @@ public final class RefusedTest {
 
     private static void back() {
         for (String place : new String[] {"MIN", "-1", "2", "3", "19", "20", "MAX"}) {
-            refused(10, "there is no such place, of a snapshot one", BUSY, "back(7, " + place + ")", ARGUMENT);
-            refused(10, "there is no such place, of a serial one", BUSY, "back(8, " + place + ")", ARGUMENT);
+            refused(10, "there is no such place, of a snapshot one", BUSY, "back(8, " + place + ")", ARGUMENT);
+            refused(10, "there is no such place, of a serial one", BUSY, "back(9, " + place + ")", ARGUMENT);
         }
         for (String place : new String[] {"MIN", "-1", "0", "1", "MAX"}) {
-            refused(10, "there is no place at all", "begin(0) = 0\nwrite(0, 1, 1) = 1", "back(0, " + place + ")", ARGUMENT);
+            refused(10, "there is no place at all", "begin(0) = 0\nwrite(0, 1, 1) = 1",
+                    "back(0, " + place + ")", ARGUMENT);
         }
-        String gone = BUSY + "save(8) = 2\nback(8, 0) = 0\nwrite(8, 1, 5) = 1\n";
-        refused(10, "the place behind that one is there no more", gone, "back(8, 1)", ARGUMENT);
-        refused(10, "the last place is there no more", gone, "back(8, 2)", ARGUMENT);
-        refused(10, "a later place is there no more, though one was made again", gone + "save(8) = 1", "back(8, 2)", ARGUMENT);
-        refused(10, "the place is another's", BUSY + "save(7) = 2", "back(8, 2)", ARGUMENT);
+        String gone = BUSY + "save(9) = 2\nback(9, 0) = 0\nwrite(9, 1, 5) = 1\n";
+        refused(10, "the place behind that one is there no more", gone, "back(9, 1)", ARGUMENT);
+        refused(10, "the last place is there no more", gone, "back(9, 2)", ARGUMENT);
+        refused(10, "a later place is there no more, though one was made again",
+                gone + "save(9) = 1", "back(9, 2)", ARGUMENT);
+        refused(10, "the place is another's", BUSY + "save(8) = 2", "back(9, 2)", ARGUMENT);
         String full = "begin(0) = 0\n20 * save(0)\n";
         refused(10, "there are 20, from 0", full, "back(0, 20)", ARGUMENT);
     }
 
     private static void told() {
         for (String what : new String[] {"MIN", "-2", "-1", "7", "8", "MAX"}) {
-            for (int t = 0; t <= 8; t++) {
+            for (int t = 0; t <= 9; t++) {
                 refused(16, "what is none of these", BUSY, "told(" + t + ", " + what + ")", ARGUMENT);
             }
             for (String missing : MISSING) {

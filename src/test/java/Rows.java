@@ -8,6 +8,8 @@ final class Rows {
     // No answer of an object is promised behind this many calls, so no test may lean on one.
     private static final int MOST_CALLS = 512;
 
+    static final String[] INTS = {"MIN", "-2147483647", "-1", "0", "1", "2147483646", "MAX"};
+
     private int runs = 0;
     private int wrong = 0;
 
@@ -16,12 +18,20 @@ final class Rows {
         play(title, new SnapshotStore(), rows);
     }
 
+    /** Rows in which '@' stands for each int at an edge, and '#' for it as it is answered. */
+    void runForInts(String title, String rows) {
+        for (String edge : INTS) {
+            String plain = edge.equals("MIN") ? "-2147483648" : edge.equals("MAX") ? "2147483647" : edge;
+            run(title + ", " + edge, rows.replace("@", edge).replace("#", plain));
+        }
+    }
+
     /** The call is refused behind the rows with the exception, and nothing that can be asked has changed by it. */
     void refused(String title, String rows, String call, String exception) {
         run(title, rows + "\n" + call + " = throws." + exception);
         SnapshotStore asked = new SnapshotStore();
         play(title, asked, rows);
-        for (List<String> ending : Endings.of(asked.count(5))) {
+        for (List<String> ending : Endings.of(asked)) {
             compare(title, rows, call, ending);
         }
     }
@@ -74,7 +84,8 @@ final class Rows {
     }
 
     void end() {
-        System.out.println(wrong == 0 ? "all answers of " + runs + " runs are as due" : wrong + " answers are not as due");
+        System.out.println(wrong == 0 ? "all answers of " + runs + " runs are as due"
+                : wrong + " answers are not as due");
         if (wrong != 0) {
             System.exit(1);
         }
