@@ -804,6 +804,20 @@ public final class PromisesTest {
             astray() = 0""");
     }
 
+    private static void readmeExample() {
+        run("the example of README.md", """
+            begin(1) = 0
+            write(0, 5, 70) = 1
+            save(0) = 0
+            erase(0, 5) = 1
+            back(0, 0) = 1
+            commit(0) = 1
+            flush() = 1
+            crash() = 0
+            at(5, false) = 70
+            vacuum() = 0""");
+    }
+
     public static void main(String[] args) {
         newObject();
         begin();
@@ -821,6 +835,7 @@ public final class PromisesTest {
         told();
         atAndVersions();
         countAndAstray();
+        readmeExample();
         ROWS.end();
     }
 }
